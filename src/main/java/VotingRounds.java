@@ -16,6 +16,8 @@ public final class VotingRounds {
     private static final int UNIT_GAIN = 65536;
     private static final int MOST_GAIN = 1048576;
     private static final int GAIN_SHIFT = 16;
+    private static final int LEAST_INT = -2147483648;
+    private static final int MOST_INT = 2147483647;
 
     private static final int NO_FAULT = 0;
     private static final int SILENT = 1;
@@ -56,7 +58,7 @@ public final class VotingRounds {
         line = new Line(size);
         this.nodes = new Node[size];
         for (int i = 0; i < size; i++) {
-            this.nodes[i] = new Node(i, size, known);
+            this.nodes[i] = new Node(i, size);
         }
         commands = new Contents(size);
     }
@@ -225,7 +227,7 @@ public final class VotingRounds {
 
     /** Promise 20. */
     public long frame(int sender, int kind, int round, int content) throws IllegalArgumentException {
-        if (!Frames.areFields(sender, kind, round)) {
+        if (!Frames.canHold(sender, kind, round)) {
             throw new IllegalArgumentException();
         }
         return Frames.sealed(sender, kind, round, content);
@@ -262,7 +264,7 @@ public final class VotingRounds {
         sendRelays();
         for (int i = 0; i < nodes.length; i++) {
             if (!nodes[i].isLost) {
-                nodes[i].workOut();
+                nodes[i].workOut(known);
             }
         }
         sendCommands();
@@ -368,7 +370,7 @@ public final class VotingRounds {
         private static final int CHECK_MASK = 65535;
         private static final int CHECK_STEP = 4129;
 
-        static boolean areFields(int sender, int kind, int round) {
+        static boolean canHold(int sender, int kind, int round) {
             return sender >= 0 && sender <= MOST_NIBBLE && kind >= 0 && kind <= MOST_NIBBLE
                     && round >= 0 && round <= MOST_ROUND;
         }
@@ -485,6 +487,7 @@ public final class VotingRounds {
         private int round;
         private int sender;
         private boolean comes;
+        /** Sound, and with the sender and the round that are due: what then is due goes by the kind. */
         private boolean isTrue;
         private int kindThatComes;
         private int contentToEven;
@@ -549,7 +552,6 @@ public final class VotingRounds {
     private static final class Node {
         private final int number;
         private final int size;
-        private final Known known;
         private int reading;
         private boolean isLost;
         private final int[] state;
@@ -564,10 +566,9 @@ public final class VotingRounds {
         private boolean hasOrder;
         private int order;
 
-        Node(int number, int size, Known known) {
+        Node(int number, int size) {
             this.number = number;
             this.size = size;
-            this.known = known;
             state = new int[STATE_PARTS];
             state[LIST] = bitsBelow(size);
             values = new Contents(size);
@@ -605,13 +606,13 @@ public final class VotingRounds {
         }
 
         /** AGREEING, CONTROL and MEMBERSHIP: nothing is sent in these, so one node can do all three. */
-        void workOut() {
+        void workOut(Known known) {
             for (int i = 0; i < size; i++) {
                 agreeOn(i);
             }
-            control();
+            control(known);
             for (int i = 0; i < size; i++) {
-                judge(i);
+                judge(i, known.k);
             }
         }
 
@@ -644,13 +645,13 @@ public final class VotingRounds {
             }
         }
 
-        private void control() {
+        private void control(Known known) {
             int n = orderAgreements();
             if (n == 0) {
                 return;
             }
             int middle = ordered[(n - 1) / 2];
-            long e = within((long) known.target - middle, Integer.MIN_VALUE, Integer.MAX_VALUE);
+            long e = within((long) known.target - middle, LEAST_INT, MOST_INT);
             long i = within(state[INTEGRAL] + (known.gainI * e >> GAIN_SHIFT), -LIMIT, LIMIT);
             long change = e - state[ERROR];
             long u = (known.gainP * e >> GAIN_SHIFT) + i + (known.gainD * change >> GAIN_SHIFT);
@@ -685,14 +686,14 @@ public final class VotingRounds {
         }
 
         /** MEMBERSHIP for one node: the count grows in rounds that speak against its present standing. */
-        private void judge(int i) {
-            boolean isMember = isMember(i);
-            if (isMember == agreements.has(i)) {
+        private void judge(int i, int k) {
+            boolean isIn = isMember(i);
+            if (isIn == agreements.has(i)) {
                 setCount(i, 0);
                 return;
             }
             int grown = countOf(i) + 1;
-            if (grown >= (isMember ? known.k : ROUNDS_TO_REJOIN)) {
+            if (grown >= (isIn ? k : ROUNDS_TO_REJOIN)) {
                 state[LIST] ^= 1 << i;
                 setCount(i, 0);
             } else {

@@ -9,6 +9,7 @@ public final class MembershipTest {
         sameState();
         partsOfAState();
         otherBitsAreLeftOut();
+        otherBitsOfSome();
         countsOfFifteen();
         noMembers();
         lostWithTooFew();
@@ -185,6 +186,30 @@ public final class MembershipTest {
         x.run(1);
         Check.due("agreed by three of five", x.agreed(0, 1), 0);
         Check.due("agreed by three of five", x.agreed(1, 0), 0);
+    }
+
+    /** Nodes 3 and 5 alone take over changed states; of the list and the counts nothing must stay changed. */
+    private static void otherBitsOfSome() {
+        VotingRounds x = new VotingRounds(6, 3);
+        int[] twoFaced = {0, 1, 2, 4};
+        for (int i : twoFaced) {
+            x.fault(i, 3, 1 << 25);
+        }
+        x.run(1);
+        for (int i = 0; i < 6; i++) {
+            x.fault(i, 0, 0);
+            Check.due("integral of " + i, x.integral(i), i == 3 || i == 5 ? 1 << 25 : 0);
+        }
+        Check.due("integrals differ", x.same(2, 3), false);
+        // Node 0 is lost, so that no majority tells 3 and 5 better; all integrals go to the limit.
+        x.restart(0);
+        x.tune(0, 65536, 0);
+        x.aim(VotingRounds.LIMIT);
+        x.run(1);
+        for (int i = 0; i < 6; i++) {
+            Check.due("all are of one mind again, " + i, x.same(i, 3), true);
+        }
+        Check.due("back with all four", x.lost(0), false);
     }
 
     private static void countsOfFifteen() {
