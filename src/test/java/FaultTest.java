@@ -197,6 +197,24 @@ public final class FaultTest {
         x.restart(3);
         x.run(1);
         counters("the value of a lost one", x, 0, 17, 17, 17, 0, 2);
+        restartsForgetNone();
+    }
+
+    private static void restartsForgetNone() {
+        VotingRounds x = new VotingRounds(4, 3);
+        x.fault(3, 2, 2);
+        x.run(1);
+        for (int i = 0; i < 4; i++) {
+            x.restart(i);
+        }
+        counters("just restarted", x, 0, 8, 8, 8, 0, 1);
+        x.run(1);
+        counters("a round after all were restarted", x, 0, 9, 9, 9, 0, 1);
+        VotingRounds y = new VotingRounds(4, 3);
+        y.fault(2, 4, 0);
+        y.run(1);
+        y.restart(2);
+        Check.due("blocked after a restart", y.blocked(), 9);
     }
 
     private static void counters(String when, VotingRounds x, int blocked, int... rejected) {

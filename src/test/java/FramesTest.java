@@ -32,7 +32,6 @@ public final class FramesTest {
     }
 
     private static void edges() {
-        VotingRounds x = new VotingRounds(4, 3);
         int[] nibbles = {0, 1, 7, 8, 15};
         int[] rounds = {0, 1, 127, 128, 255};
         int[] contents = {0, 1, -1, Integer.MIN_VALUE, Integer.MAX_VALUE, 65535, 65536};
@@ -40,14 +39,15 @@ public final class FramesTest {
             for (int kind : nibbles) {
                 for (int round : rounds) {
                     for (int content : contents) {
-                        made(x, sender, kind, round, content);
+                        made(sender, kind, round, content);
                     }
                 }
             }
         }
     }
 
-    private static void made(VotingRounds x, int sender, int kind, int round, int content) {
+    private static void made(int sender, int kind, int round, int content) {
+        VotingRounds x = new VotingRounds(4, 3);
         String call = "frame(" + sender + ", " + kind + ", " + round + ", " + content + ")";
         long open = (long) sender << 60 | (long) kind << 56 | (long) round << 48 | (content & 0xFFFFFFFFL) << 16;
         long frame = x.frame(sender, kind, round, content);
@@ -69,9 +69,9 @@ public final class FramesTest {
     }
 
     private static void madeUp() {
-        VotingRounds x = new VotingRounds(4, 3);
         Random random = new Random(21);
         for (int i = 0; i < 20000; i++) {
+            VotingRounds x = new VotingRounds(4, 3);
             long frame = random.nextLong();
             long sound = frame & ~65535L | checkBits(frame);
             Check.due("sound(" + frame + ")", x.sound(frame), frame == sound);

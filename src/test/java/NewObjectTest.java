@@ -11,6 +11,7 @@ public final class NewObjectTest {
         for (int[] k : ks) {
             hasPatience(k[0], k[1]);
         }
+        bothOut();
         for (int n = 4; n <= 6; n++) {
             isBlank(n);
         }
@@ -36,6 +37,21 @@ public final class NewObjectTest {
             String at = "VotingRounds(6, " + given + ") after " + round + " rounds: ";
             Check.due(at + "member(0, 5)", x.member(0, 5), round < due);
             Check.due(at + "count(0, 5)", x.count(0, 5), round < due ? round : 0);
+        }
+    }
+
+    /** Neither is in: four nodes, and K is 3. */
+    private static void bothOut() {
+        int[][] out = {{3, 0}, {7, 9}, {3, 9}, {7, 0}};
+        for (int[] o : out) {
+            VotingRounds x = new VotingRounds(o[0], o[1]);
+            String made = "VotingRounds(" + o[0] + ", " + o[1] + "): ";
+            Check.throwing(made + "lost(4)", Check.ARGUMENT, () -> x.lost(4));
+            x.fault(3, 1, 0);
+            x.run(2);
+            Check.due(made + "member(0, 3) after two rounds", x.member(0, 3), true);
+            x.run(1);
+            Check.due(made + "member(0, 3) after three rounds", x.member(0, 3), false);
         }
     }
 

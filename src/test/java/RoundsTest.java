@@ -3,6 +3,7 @@ public final class RoundsTest {
     public static void main(String[] args) {
         wrongCalls();
         runs();
+        roundsInOneCall();
         manyRounds();
         restart();
         restartTwice();
@@ -45,6 +46,30 @@ public final class RoundsTest {
         Check.due("integral after run(4)", y.integral(0), 12);
     }
 
+    /** n rounds in one call are the same as n calls of one. */
+    private static void roundsInOneCall() {
+        for (int n = 1; n <= 4; n++) {
+            VotingRounds x = changing();
+            VotingRounds twin = changing();
+            x.run(n);
+            for (int i = 0; i < n; i++) {
+                twin.run(1);
+            }
+            Twins.alike("run(" + n + ")", x, twin, 5);
+        }
+    }
+
+    /** Something that changes with each round: an integral, a silent node's count, a lost node that comes back. */
+    private static VotingRounds changing() {
+        VotingRounds x = Check.sensing(3, 1, 2, 3, 4, 5);
+        x.aim(100);
+        x.tune(65536, 65536, 65536);
+        x.fault(4, 1, 0);
+        x.fault(3, 4, 0);
+        x.restart(3);
+        return x;
+    }
+
     /** More rounds than a frame's eight bits count. */
     private static void manyRounds() {
         VotingRounds x = Check.sensing(1, 6, 6, 6, 6, 6, 6);
@@ -85,7 +110,9 @@ public final class RoundsTest {
         Check.due("restart before the first round", x.restart(0), true);
         Check.due("restart of a lost one", x.restart(0), false);
         Check.due("it is still lost", x.lost(0), true);
+        Check.due("restart of a lost one again", x.restart(0), false);
         x.run(1);
+        Check.due("it is back", x.lost(0), false);
         Check.due("restart in the round after it came back", x.restart(0), true);
     }
 
@@ -96,6 +123,11 @@ public final class RoundsTest {
         Check.due("the reading stays", x.sense(1, 2), 2);
         x.run(1);
         Check.due("the fault stays", x.blocked(), 1);
+        VotingRounds y = Check.sensing(1, 1, 2, 3, 4);
+        y.fault(1, 2, Check.soundChange(0, 0, 0, 32));
+        y.restart(1);
+        y.run(1);
+        Check.due("the fault's argument stays", y.agreed(0, 1), 34);
     }
 
     private static void agreedThrows() {
