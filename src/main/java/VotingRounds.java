@@ -230,12 +230,12 @@ public final class VotingRounds {
         if (!Frames.canHold(sender, kind, round)) {
             throw new IllegalArgumentException();
         }
-        return Frames.sealed(sender, kind, round, content);
+        return Frames.soundFrame(sender, kind, round, content);
     }
 
     /** Promise 21. */
     public boolean sound(long frame) {
-        return Frames.isSealed(frame);
+        return Frames.isSound(frame);
     }
 
     private boolean isNode(int number) {
@@ -375,13 +375,13 @@ public final class VotingRounds {
                     && round >= 0 && round <= MOST_ROUND;
         }
 
-        static long sealed(int sender, int kind, int round, int content) {
+        static long soundFrame(int sender, int kind, int round, int content) {
             long open = (long) sender << SENDER_SHIFT | (long) kind << KIND_SHIFT
                     | (long) round << ROUND_SHIFT | (content & CONTENT_MASK) << CONTENT_SHIFT;
             return open | checkOf(open);
         }
 
-        static boolean isSealed(long frame) {
+        static boolean isSound(long frame) {
             return (frame & CHECK_MASK) == checkOf(frame);
         }
 
@@ -510,15 +510,15 @@ public final class VotingRounds {
             }
             comes = fault != SILENT && fault != UNTIMELY;
             sender = from;
-            long frame = Frames.sealed(from, kind, round, content);
+            long frame = Frames.soundFrame(from, kind, round, content);
             if (fault == GARBLING) {
                 frame ^= arguments[from];
             }
-            isTrue = Frames.isSealed(frame) && Frames.senderOf(frame) == from
+            isTrue = Frames.isSound(frame) && Frames.senderOf(frame) == from
                     && Frames.roundOf(frame) == round;
             kindThatComes = Frames.kindOf(frame);
             contentToEven = Frames.contentOf(frame);
-            // What a two-faced node sends to odd receivers is sealed anew, so just its content differs.
+            // What a two-faced node sends to odd receivers is made sound anew, so just its content differs.
             contentToOdd = fault == TWO_FACED ? contentToEven ^ (int) arguments[from] : contentToEven;
         }
 

@@ -26,6 +26,9 @@ public final class ControlBoundsTest {
         keptByTheSignOfE();
         gainsAtTheirEnds();
         greatestOfAll();
+        eachGreatTermAlone();
+        eachTermIsRoundedAlone();
+        keptButCommanded();
         Check.finish();
     }
 
@@ -287,5 +290,47 @@ public final class ControlBoundsTest {
         Check.due("the greatest command", x.command(0), LIMIT);
         Check.due("the integral is kept again", x.integral(0), 0);
         Check.due("the greatest error", x.error(0), MOST);
+    }
+
+    /** What each gain makes of the greatest e goes far beyond an int. */
+    private static void eachGreatTermAlone() {
+        int[][] gains = {{1048576, 0, 0}, {0, 1048576, 0}, {0, 0, 1048576}};
+        for (int[] g : gains) {
+            VotingRounds x = reading(0, MOST);
+            x.tune(g[0], g[1], g[2]);
+            x.run(1);
+            Check.due("the greatest command by one gain", x.command(0), LIMIT);
+            VotingRounds y = reading(0, LEAST);
+            y.tune(g[0], g[1], g[2]);
+            y.run(1);
+            Check.due("the least command by one gain", y.command(0), -LIMIT);
+        }
+    }
+
+    /** Halves: each of the terms is shifted before they are added, so that two of them don't make one. */
+    private static void eachTermIsRoundedAlone() {
+        int half = ONE / 2;
+        int[][] gains = {{half, half, 0, -2}, {half, 0, half, -2}, {0, half, half, -2}, {half, half, half, -3}};
+        for (int[] g : gains) {
+            VotingRounds x = reading(0, 1);
+            x.tune(g[0], g[1], g[2]);
+            x.run(1);
+            Check.due("command by halves above 0", x.command(0), 0);
+            VotingRounds y = reading(0, -1);
+            y.tune(g[0], g[1], g[2]);
+            y.run(1);
+            Check.due("command by halves below 0", y.command(0), g[3]);
+        }
+    }
+
+    /** u is beyond the limit by an i that doesn't become the integral; the command goes by that u all the same. */
+    private static void keptButCommanded() {
+        for (int sign = -1; sign <= 1; sign += 2) {
+            VotingRounds x = reading(0, sign * (LIMIT / 4 * 3));
+            x.tune(ONE, ONE, 0);
+            x.run(1);
+            Check.due("command by an i that isn't kept", x.command(0), sign * LIMIT);
+            Check.due("integral when i isn't kept", x.integral(0), 0);
+        }
     }
 }

@@ -13,6 +13,7 @@ public final class LineBoundsTest {
         for (int bit = 0; bit < 32; bit++) {
             otherContent(bit);
         }
+        twoFacedRelays();
         otherSenders();
         otherKinds();
         otherRounds();
@@ -62,6 +63,19 @@ public final class LineBoundsTest {
         Check.due(when + ": agreed(3, 0)", x.agreed(3, 0), changed);
         Check.due(when + ": agreed(0, 0)", x.agreed(0, 0), 100);
         counters(when, x, 0, 0, 0, 0, 0, 0);
+    }
+
+    /** Nodes 2 and 3 get the value of 0 as it is, and tell node 1 otherwise; even receivers hear it from them as it is. */
+    private static void twoFacedRelays() {
+        VotingRounds x = Check.sensing(3, READINGS);
+        x.fault(2, 3, 8);
+        x.fault(3, 3, 8);
+        x.run(1);
+        Check.due("two-faced relays: agreed(1, 0)", x.agreed(1, 0), 100 ^ 8);
+        Check.due("two-faced relays: agreed(2, 0)", x.agreed(2, 0), 100);
+        Check.due("two-faced relays: agreed(3, 0)", x.agreed(3, 0), 100);
+        Check.due("two-faced relays: agreed(0, 1)", x.agreed(0, 1), 200);
+        counters("two-faced relays", x, 0, 0, 0, 0, 0, 0);
     }
 
     private static void otherContent(int bit) {
