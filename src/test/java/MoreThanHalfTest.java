@@ -20,6 +20,8 @@ public final class MoreThanHalfTest {
             }
             noCommands(n);
         }
+        commandsOfNoMembers();
+        positionBeyondTheLimit();
         statesForALostNode();
         statesForANodeThatHasOne();
         eachPartByItself();
@@ -143,6 +145,38 @@ public final class MoreThanHalfTest {
         for (int i = 0; i < n; i++) {
             Check.due("all stay lost", x.lost(i), true);
             Check.due("all are the same", x.same(0, i), true);
+        }
+    }
+
+    /** "Of all N nodes": whether members or not. K being 1, silent nodes are out after a round, and count in N. */
+    private static void commandsOfNoMembers() {
+        VotingRounds x = new VotingRounds(6, 1);
+        x.aim(9);
+        x.fault(4, 1, 0);
+        x.fault(5, 1, 0);
+        x.run(1);
+        Check.due("four of six commands, two are out: position", x.position(), 9);
+        Check.due("4 and 5 are out", x.member(0, 4) || x.member(0, 5), false);
+        x.fault(3, 1, 0);
+        x.run(1);
+        Check.due("three of six commands, of four members: position", x.position(), 0);
+        Check.due("three of six commands, of four members: safes", x.safes(), 1);
+        x.fault(4, 0, 0);
+        x.run(1);
+        Check.due("node 4 is no member yet", x.member(0, 4), false);
+        Check.due("four of six commands, one of no member: position", x.position(), 9);
+        Check.due("four of six commands, one of no member: safes", x.safes(), 1);
+    }
+
+    /** The position is what the actuator got, though no node's command goes beyond the limit. */
+    private static void positionBeyondTheLimit() {
+        int[] bits = {1 << 24, 1 << 30, 1 << 31, -1};
+        for (int b : bits) {
+            VotingRounds x = commandingNine(5);
+            for (int i = 0; i < 3; i++) {
+                x.fault(i, 2, Check.soundChange(0, 0, 0, b));
+            }
+            moved("three of five commands changed by " + b, x, false, 9 ^ b);
         }
     }
 
